@@ -60,9 +60,17 @@ public final class LayoutTest {
         }
         check.same("build again", 24, x.build(8, 6));
         check.row("state after build", Check.stateOf(Check.network(8, 6)), Check.stateOf(x));
+        check.same("nobody is under way after build: resend()", 0, x.resend());
         x.enter(0, false);
+        CountingNetwork fresh = Check.network(8, 6);
+        fresh.enter(0, false);
+        check.row("a token that comes after build", Check.stateOf(fresh), Check.stateOf(x));
         check.same("stations are up after build: settle(100)", 14, x.settle(100));
+        x.build(8, 1);
+        x.enter(0, false);
+        x.move(0);
         x.build(2, 1);
+        check.same("its letter is gone: resend()", 0, x.resend());
         check.same("build to a smaller width", 2, x.about(0));
         check.refused("balancer(1, 0) of width 2", IndexOutOfBoundsException.class, () -> x.balancer(1, 0));
     }

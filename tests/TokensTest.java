@@ -17,6 +17,7 @@ public final class TokensTest {
         tokenTells();
         tokenRefuses();
         orderedTokensWait();
+        orderedTokensWaitForLaterExits();
         aboutTells();
         aboutRefuses();
         check.end();
@@ -186,7 +187,7 @@ public final class TokensTest {
         check.refused("full again", IllegalStateException.class, () -> x.move(2));
     }
 
-    // With width 8 a token on wire 3 that came by balancer 21 must not go back to one laid before.
+    // Wires are crossed again and again, so a token must never turn back to a balancer laid before its last.
     private static void nextIsBehindTheLastPassed() {
         for (int wire = 0; wire < 8; wire++) {
             CountingNetwork x = Check.network(8, 6);
@@ -297,6 +298,26 @@ public final class TokensTest {
         x.move(2);
         check.same("2 got 4", 4, x.token(2, 4));
         check.same("5 is shown", 5, x.token(5, 4));
+    }
+
+    // An exit may run ahead of one behind it as well as of one before it.
+    private static void orderedTokensWaitForLaterExits() {
+        CountingNetwork x = Check.network(2, 1);
+        for (int t = 0; t < 3; t++) {
+            x.enter(1, true);
+        }
+        x.settle(2);
+        x.move(0);
+        check.same("0 is the highest", 0, x.about(3));
+        check.same("none below is missing", 0, x.about(4));
+        x.move(2);
+        check.same("2 is the highest", 2, x.about(3));
+        check.same("1 is missing", 1, x.about(4));
+        check.same("0 is shown", 0, x.token(0, 4));
+        check.same("2 waits for 1", CountingNetwork.NONE, x.token(2, 4));
+        x.move(1);
+        check.same("2 is shown", 2, x.token(2, 4));
+        check.same("none is missing", 0, x.about(4));
     }
 
     private static void aboutTells() {
