@@ -10,6 +10,10 @@ final class Check {
         void run();
     }
 
+    static final Class<IllegalArgumentException> ARGUMENT = IllegalArgumentException.class;
+    static final Class<IllegalStateException> STATE = IllegalStateException.class;
+    static final Class<IndexOutOfBoundsException> INDEX = IndexOutOfBoundsException.class;
+
     private int wrong;
 
     void same(String call, long want, long got) {
