@@ -2,16 +2,24 @@ import java.lang.reflect.Constructor;
 import java.lang.reflect.Field;
 import java.lang.reflect.Method;
 import java.lang.reflect.Modifier;
+import java.util.Arrays;
 import java.util.Set;
 import java.util.TreeSet;
 
 /** The public face: what the document names, and nothing else that another class could see. */
 public final class FaceTest {
+    private static final String INDEX = " IndexOutOfBoundsException";
+    private static final String ARGUMENT = " IllegalArgumentException";
+    private static final String STATE = " IllegalStateException";
+
     private static final Set<String> DUE = new TreeSet<>(Set.of(
         "NONE:int", "new[]",
-        "build[int, int]:int", "balancer[int, int]:int", "exit[int, int]:int", "enter[int, boolean]:int",
-        "move[int]:int", "deliver[int]:int", "lose[int]:void", "twin[int]:void", "letter[int, int]:int",
-        "resend[]:int", "station[int, boolean]:void", "token[int, int]:int", "about[int]:int", "settle[int]:int"));
+        "build[int, int]:int" + ARGUMENT, "balancer[int, int]:int" + INDEX + ARGUMENT,
+        "exit[int, int]:int" + INDEX + ARGUMENT, "enter[int, boolean]:int" + ARGUMENT + STATE,
+        "move[int]:int" + ARGUMENT + STATE, "deliver[int]:int" + INDEX, "lose[int]:void" + INDEX,
+        "twin[int]:void" + INDEX + STATE, "letter[int, int]:int" + INDEX + ARGUMENT, "resend[]:int",
+        "station[int, boolean]:void" + ARGUMENT, "token[int, int]:int" + ARGUMENT, "about[int]:int" + ARGUMENT,
+        "settle[int]:int" + ARGUMENT));
 
     public static void main(String[] args) {
         Check check = new Check();
@@ -23,12 +31,12 @@ public final class FaceTest {
         }
         for (Constructor<?> c : CountingNetwork.class.getDeclaredConstructors()) {
             if (!Modifier.isPrivate(c.getModifiers())) {
-                seen.add("new" + java.util.Arrays.toString(c.getParameterTypes()));
+                seen.add("new" + Arrays.toString(c.getParameterTypes()));
             }
         }
         for (Method m : CountingNetwork.class.getDeclaredMethods()) {
             if (!Modifier.isPrivate(m.getModifiers())) {
-                seen.add(m.getName() + java.util.Arrays.toString(m.getParameterTypes()) + ":" + m.getReturnType());
+                seen.add(m.getName() + Arrays.toString(m.getParameterTypes()) + ":" + m.getReturnType() + thrownBy(m));
                 check.same(m.getName() + " is public", 1, Modifier.isPublic(m.getModifiers()) ? 1 : 0);
             }
         }
@@ -38,5 +46,13 @@ public final class FaceTest {
         check.same("the class is final", 1, Modifier.isFinal(CountingNetwork.class.getModifiers()) ? 1 : 0);
         check.same("NONE", -1, CountingNetwork.NONE);
         check.end();
+    }
+
+    private static String thrownBy(Method m) {
+        StringBuilder thrown = new StringBuilder();
+        for (Class<?> e : m.getExceptionTypes()) {
+            thrown.append(' ').append(e.getSimpleName());
+        }
+        return thrown.toString();
     }
 }

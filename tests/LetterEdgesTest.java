@@ -32,6 +32,7 @@ public final class LetterEdgesTest {
         resendingForTheWayItIsOn();
         resendingAsLongAsThereIsRoom();
         resendingPassesOverThoseThatHaveOne();
+        resendingAfterTwoHundred();
         check.end();
     }
 
@@ -443,5 +444,22 @@ public final class LetterEdgesTest {
         check.same("the least", 0, x.letter(37, 0));
         check.same("the next", 20, x.letter(38, 0));
         check.same("the greatest", 39, x.letter(39, 0));
+    }
+
+    private static void resendingAfterTwoHundred() {
+        CountingNetwork x = new CountingNetwork();
+        for (int t = 0; t < 199; t++) {
+            x.enter(0, false);
+            if (t % 40 == 38) {
+                x.settle(3);
+            }
+        }
+        check.same("all are done", 0, x.about(2));
+        check.same("the 200th", 199, x.enter(0, false));
+        check.same("it is not under way", 0, x.resend());
+        x.move(199);
+        x.lose(0);
+        check.same("it is under way", 1, x.resend());
+        check.same("its letter", 199, x.letter(0, 0));
     }
 }

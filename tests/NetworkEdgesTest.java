@@ -32,6 +32,8 @@ public final class NetworkEdgesTest {
         for (int width = -9; width <= 33; width++) {
             buildOfWidth(x, width);
         }
+        buildOfWidth(x, 4);
+        buildOfWidth(x, 2);
         for (int width : new int[] {MIN, MIN + 2, MIN + 4, MIN + 8, 64, 256, 258, 65538, 1 << 30, MAX - 1, MAX}) {
             buildOfWidth(x, width);
         }
@@ -46,6 +48,7 @@ public final class NetworkEdgesTest {
         } else {
             check.same("build(" + width + ", 1)", balancers, x.build(width, 1));
             check.same("the width", width, x.about(0));
+            check.same("what each token passes", width == 2 ? 1 : width == 4 ? 3 : 6, x.about(5));
         }
     }
 
@@ -146,7 +149,13 @@ public final class NetworkEdgesTest {
         for (int t = 0; t < 40; t++) {
             x.enter(0, true);
         }
-        x.move(39);
+        x.settle(2);
+        x.build(2, 2);
+        for (int t = 0; t < 40; t++) {
+            check.same("enter anew", t, x.enter(1, false));
+            check.same("it passed none", 0, x.token(t, 3));
+            x.move(t);
+        }
         check.refused("enter the 41st", Check.STATE, () -> x.enter(0, true));
         x.build(2, 1);
         for (int t : new int[] {0, 39}) {
@@ -157,9 +166,10 @@ public final class NetworkEdgesTest {
         check.same("resend finds none", 0, x.resend());
         for (int t = 0; t < 40; t++) {
             check.same("enter anew", t, x.enter(1, false));
+            check.same("it is not under way", 0, x.token(t, 2));
+            check.same("it is nowhere", CountingNetwork.NONE, x.token(t, 1));
+            check.same("resend finds none", 0, x.resend());
         }
-        check.same("it is not under way", 0, x.token(39, 2));
-        check.same("it is nowhere", CountingNetwork.NONE, x.token(39, 1));
     }
 
     private static void buildLetsLettersGo() {
